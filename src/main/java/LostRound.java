@@ -966,8 +966,8 @@ public final class LostRound {
         int stepNearer(int cell) {
             int right = (fire & 7) - (cell & 7);
             int down = (fire >> 3) - (cell >> 3);
-            int alongX = right == 0 ? NONE : cell + Integer.signum(right);
-            int alongY = down == 0 ? NONE : cell + 8 * Integer.signum(down);
+            int alongX = right == 0 ? NONE : right > 0 ? cell + 1 : cell - 1;
+            int alongY = down == 0 ? NONE : down > 0 ? cell + 8 : cell - 8;
             boolean firstX = Math.abs(right) >= Math.abs(down);
             int one = firstX ? alongX : alongY;
             int other = firstX ? alongY : alongX;
@@ -1804,7 +1804,6 @@ public final class LostRound {
             this.wood = wood;
         }
 
-        @Override
         boolean readLine() {
             if (isWord("part")) {
                 return readPart();
@@ -1940,7 +1939,6 @@ public final class LostRound {
             this.law = law;
         }
 
-        @Override
         boolean readLine() {
             int effect;
             if (isWord("stay")) {
