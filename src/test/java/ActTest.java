@@ -5,6 +5,7 @@ final class ActTest {
         straying();
         strayingIn();
         fullLog();
+        rowsOfSeveral();
         steps();
         fire();
         trees();
@@ -118,10 +119,32 @@ final class ActTest {
         Due.is("60 rows at the most", x.count(11), 60);
         row(x, 59, 0, 1, 0, 1, 0);
         row(x, 0, 7, 4, 0, 1, 0);
+        row(x, 1, 7, 3, 0, 1, 0);
+        x.undo();
+        row(x, 0, 7, 3, 0, 1, 0);
+        row(x, 59, 0, 0, 0, 1, 0);
+        x.sing(1);
         Due.is("log(60, 0)", x.log(60, 0), -1);
         x.sing(120);
         Due.is("bad is 99 at the most", x.boy(0, 4), 99);
         Due.is("led(0, false)", x.led(0, false), 60);
+    }
+
+    private static void rowsOfSeveral() {
+        LostRound x = Due.told("part 00000000;boy at 26 sings 0 ear 9;boy at 63 sings 0 ear 0;boy at 25 sings 0 ear 9"
+            + ";boy at 19 sings 0 ear 9;boy at 0 sings 0 ear 0;boy at 28 sings 0 ear 9;loud 0;stray 100;trees 1;trees 8;trees 62;trees 55");
+        Due.is("three come in", x.sing(1), 3);
+        row(x, 4, 0, 0, 0, 0, 27);
+        row(x, 3, 0, 0, 1, 1, 63);
+        row(x, 2, 0, 0, 3, 0, 27);
+        row(x, 1, 0, 0, 4, 1, 0);
+        row(x, 0, 0, 0, 5, 0, 27);
+        Due.is("one more", x.sing(2), 1);
+        row(x, 3, 0, 1, 2, 0, 27);
+        Due.is("led(1, false)", x.led(1, false), 3);
+        Due.is("led(4, true)", x.led(4, true), 0);
+        Due.is("led(5, true)", x.led(5, true), 27);
+        Due.is("led(2, false)", x.led(2, false), 1);
     }
 
     private static void steps() {
@@ -131,6 +154,18 @@ final class ActTest {
             x.sing(1);
             Due.is("beat " + n, x.boy(0, 0), due[n]);
         }
+        LostRound edges = Due.told("part 12341234;boy at 3 sings 0 ear 15;boy at 15 sings 0 ear 15;boy at 59 sings 0 ear 15;boy at 16 sings 0 ear 15");
+        int[][] cells = {{3, 7, 51, 8}, {4, 7, 52, 9}, {12, 15, 60, 17}, {11, 14, 59, 16}, {3, 6, 51, 8}};
+        for (int[] row : cells) {
+            edges.sing(1);
+            for (int boy = 0; boy < 4; boy++) {
+                Due.is("edges: boy " + boy, edges.boy(boy, 0), row[boy]);
+            }
+        }
+        LostRound wrap = Due.told("part 44444444;part 22222222;boy at 16 sings 0 ear 15;boy at 15 sings 1 ear 15");
+        wrap.sing(1);
+        Due.is("not over the left edge", wrap.boy(0, 0), 16);
+        Due.is("not over the right edge", wrap.boy(1, 0), 15);
         next(12, 20, "as far: along x is 1, along y 2");
         next(9, 10, "as far both ways: along x");
         next(31, 30, "along x alone");
@@ -201,13 +236,14 @@ final class ActTest {
         Due.is("he goes by that", x.boy(0, 7), 32);
         Due.is("tune(1, 0, 3) again", x.tune(1, 0, 3), 3);
         Due.is("tune(0, 7, 7)", x.tune(0, 7, 7), 0);
+        Due.is("tune(0, 7, 0)", x.tune(0, 7, 0), 7);
         Due.fails("tune(2, 0, 8)", IndexOutOfBoundsException.class, () -> x.tune(2, 0, 8));
         Due.fails("tune(-1, 0, 0)", IndexOutOfBoundsException.class, () -> x.tune(-1, 0, 0));
         Due.fails("tune(0, 8, 8)", IndexOutOfBoundsException.class, () -> x.tune(0, 8, 8));
         Due.fails("tune(0, -1, 0)", IndexOutOfBoundsException.class, () -> x.tune(0, -1, 0));
         Due.fails("tune(0, 0, 8)", IllegalArgumentException.class, () -> x.tune(0, 0, 8));
         Due.fails("tune(0, 0, -1)", IllegalArgumentException.class, () -> x.tune(0, 0, -1));
-        Due.is("five acts", x.count(12), 5);
+        Due.is("six acts", x.count(12), 6);
     }
 
     private static void calledAndSent() {

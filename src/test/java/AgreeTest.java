@@ -44,7 +44,11 @@ final class AgreeTest {
     }
 
     private String go() throws Exception {
-        for (int[] text : List.of(soundText(), woodText(), woodText())) {
+        List<int[]> texts = new ArrayList<>(List.of(soundText(), woodText()));
+        for (int i = below(5); i > 2; i--) {
+            texts.add(treesText());
+        }
+        for (int[] text : texts) {
             String parted = tell(text, "wood");
             if (!parted.isEmpty()) {
                 return parted;
@@ -52,7 +56,7 @@ final class AgreeTest {
         }
         while (story.size() < CALLS) {
             int dice = below(40);
-            String parted = dice == 0 ? tell(woodText(), "wood") : dice == 1 ? tell(lawText(), "law")
+            String parted = dice == 0 ? tell(below(2) == 0 ? woodText() : treesText(), "wood") : dice == 1 ? tell(lawText(), "law")
                 : dice == 2 ? tell(bytes(), List.of("sounds", "listen", "ears").get(below(3)))
                 : ask(FACE[below(FACE.length)]);
             if (!parted.isEmpty()) {
@@ -93,7 +97,7 @@ final class AgreeTest {
             case "loud" -> below(17);
             case "seed", "feed" -> random.nextInt();
             case "end" -> below(30);
-            case "log" -> i == 0 ? below(62) - 1 : below(6);
+            case "log" -> i == 0 ? below(1 + below(62)) - below(2) : below(6);
             case "count" -> below(14);
             case "boy" -> i == 0 ? below(6) : below(10);
             case "cell" -> below(4);
@@ -194,19 +198,32 @@ final class AgreeTest {
         }
         int boys = parts == 0 ? 0 : below(6);
         for (int i = 0; i < boys; i++) {
-            lines.add("boy at " + below(64) + " sings " + below(parts) + " ear " + below(10));
+            lines.add("boy at " + below(64) + " sings " + below(parts) + " ear " + below(1 + below(16)));
         }
-        lines.add(pick("stray 0", "stray 100", "stray " + below(101), "loud " + below(16), "fire " + below(64)));
+        lines.add(pick("stray 0", "stray 100", "stray " + below(101), "beat " + below(8)));
+        lines.add(pick("loud 0", "loud " + below(16), "fire " + below(64)));
         return String.join(";", lines).chars().toArray();
+    }
+
+    /** Trees and ferns where nothing else is likely to be: on one wall, or all over. */
+    private int[] treesText() {
+        List<String> lines = new ArrayList<>();
+        int wall = below(8);
+        boolean isWall = below(2) == 0;
+        for (int i = 0; i < 12; i++) {
+            int cell = isWall ? 8 * below(8) + wall : below(64);
+            lines.add(below(6) == 0 ? "ferns " + cell + " " + below(10) : "trees " + cell);
+        }
+        return String.join(";", lines.subList(0, 1 + below(12))).chars().toArray();
     }
 
     private String figures() {
         StringBuilder figures = new StringBuilder();
-        int same = below(2);
+        int kind = below(4);
         for (int i = 0; i < 8; i++) {
-            figures.append(same == 0 || below(2) == 0 ? 0 : below(8));
+            figures.append(kind == 0 ? 0 : kind == 1 ? below(2) : kind == 2 && below(2) == 0 ? 0 : below(8));
         }
-        return figures.toString();
+        return below(5) == 0 ? "01020304".substring(2 * below(4)).concat("01020304").substring(0, 8) : figures.toString();
     }
 
     private int[] lawText() {

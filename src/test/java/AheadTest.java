@@ -58,8 +58,18 @@ final class AheadTest {
         Due.is("by 105: none", y.soon(1), -1);
         LostRound z = Due.told("part 77770777;fire 0;boy at 62 sings 0 ear 15;beat 1");
         Due.is("by 100", z.soon(0), 100);
+        Due.is("best by 100", z.best(0), 0);
+        Due.is("all by 100", z.all(), 100);
+        Due.is("mends of 100: a silence in a second beat", z.mends(0), 8);
         Due.wood(z, "beat 0");
         Due.is("by 101: none", z.soon(0), -1);
+        Due.is("best by 101", z.best(0), -1);
+        Due.is("all by 101", z.all(), -1);
+        LostRound u = Due.told("part 77770777;part 77777777;fire 0;boy at 62 sings 0 ear 15;boy at 27 sings 1 ear 15;beat 1");
+        // Of 61 and 62 the one is in by 92, the other one by 100, from 63 none by 100.
+        Due.is("lost: later than by 100", u.lost(0, 15), 63);
+        Due.wood(u, "trees 63");
+        Due.is("lost: by 100", u.lost(0, 15), 55);
     }
 
     private static void ahead() {
@@ -128,6 +138,9 @@ final class AheadTest {
         Due.is("should() beside trees", x.should(), 34);
         Due.wood(x, "trees 30;trees 23;trees 39");
         Due.is("should() when one is shut off", x.should(), -1);
+        Due.is("should() of one", Due.told("part 00000000;boy at 0 sings 0 ear 0").should(), 0);
+        Due.is("should() of two, the first one in a corner", Due.told("part 00000000;boy at 63 sings 0 ear 0;boy at 27 sings 0 ear 0"
+            + ";boy at 62 sings 0 ear 0;boy at 55 sings 0 ear 0").should(), 63);
     }
 
     private static void calls() {
@@ -180,6 +193,18 @@ final class AheadTest {
         Due.is("first of 65: none", z.first(0), -1);
         Due.wood(z, "beat 1");
         Due.is("calls 64", z.calls(1), 64);
+        // In beat 5 a silence leads and a side does not; in beat 6 it is the other way.
+        LostRound u = Due.told("part 77777777;boy at 29 sings 0 ear 15;beat 5");
+        Due.law(u, "stay if beat < 5 or beat > 6;stay if silent and beat > 5;stay if not silent and beat < 6");
+        Due.is("calls by a silence and a side", u.calls(0), 2);
+        Due.is("can(0, 2): there and to the left, and beside these", u.can(0, 2), 8);
+        Due.is("first a silence", u.first(0), 0);
+        Due.wood(u, "beat 6");
+        Due.is("first a side", u.first(0), 4);
+        Due.is("calls by a side, and a silence later", u.calls(0), 8);
+        Due.wood(u, "beat 7");
+        Due.is("first while all are still", u.first(0), 0);
+        Due.is("calls while all are still", u.calls(0), 8);
     }
 
     private static void can() {
@@ -218,6 +243,7 @@ final class AheadTest {
         Due.is("lost(0, 2) as boy 0", x.lost(0, 2), 7);
         Due.wood(x, "boy at 9 sings 0 ear 0");
         Due.is("lost(0, 2) as boy 1", x.lost(0, 2), 63);
+        Due.is("lost from 0 as from all", Due.told("part 77777777").lost(0, 0), 0);
         Due.fails("lost(2, 16)", IndexOutOfBoundsException.class, () -> x.lost(2, 16));
         Due.fails("lost(-1, 0)", IndexOutOfBoundsException.class, () -> x.lost(-1, 0));
         Due.fails("lost(0, 16)", IllegalArgumentException.class, () -> x.lost(0, 16));

@@ -23,6 +23,10 @@ final class BoysTest {
         Due.is("meet(0, 4): not together ahead of the fire", x.meet(0, 4), 3);
         Due.is("meet(1, 2): never", x.meet(1, 2), -1);
         Due.is("meet(0, 5)", x.meet(0, 5), 4);
+        LostRound y = Due.told("part 77770777;fire 0;boy at 62 sings 0 ear 15;boy at 0 sings 0 ear 15;beat 1");
+        Due.is("meet by 100", y.meet(0, 1), 100);
+        Due.wood(y, "beat 0");
+        Due.is("meet by 101: none", y.meet(0, 1), -1);
         Due.fails("meet(0, 0)", IllegalArgumentException.class, () -> x.meet(0, 0));
         Due.fails("meet(6, 6)", IndexOutOfBoundsException.class, () -> x.meet(6, 6));
         Due.fails("meet(0, 6)", IndexOutOfBoundsException.class, () -> x.meet(0, 6));
@@ -42,6 +46,14 @@ final class BoysTest {
         Due.is("sooner() from another fire", x.sooner(), 5);
         LostRound y = Due.told("part 00000000;fire 0;boy at 63 sings 0 ear 0;boy at 62 sings 0 ear 0;loud 0;ferns 63 2");
         Due.is("sooner(): loud 15 less two of fourteen", y.sooner(), 1);
+        LostRound z = Due.told("part 77770777;fire 0;boy at 62 sings 0 ear 15;boy at 63 sings 0 ear 15;beat 1");
+        Due.is("sooner() by 100", z.sooner(), 0);
+        Due.is("loudest() with one by 108", z.loudest(), -1);
+        z.call(1);
+        Due.is("loudest() with one by 100", z.loudest(), 0);
+        Due.wood(z, "beat 0");
+        Due.is("sooner() by 101: none", z.sooner(), -1);
+        Due.is("loudest() with one by 101", z.loudest(), -1);
     }
 
     private static void loudest() {
@@ -88,6 +100,7 @@ final class BoysTest {
         Due.is("clearings() with corners cut off", x.clearings(), 4);
         x.plant(7, true);
         Due.is("clearings() with one filled", x.clearings(), 3);
+        Due.is("clearings() of a corner", Due.told("trees 1;trees 8").clearings(), 2);
     }
 
     private static void splits() {
@@ -105,6 +118,8 @@ final class BoysTest {
         LostRound y = Due.told("part 00000000;boy at 0 sings 0 ear 0;trees 1;boy at 0 sings 0 ear 0");
         // Out of the corner by 8 alone, and by 9 or 16 then.
         Due.is("splits() of two in a corner", y.splits(), 1);
+        LostRound z = Due.told("part 00000000;boy at 1 sings 0 ear 0;fire 8;trees 9;trees 2");
+        Due.is("splits(): the corner itself", z.splits(), 1);
     }
 
     private static void rests() {

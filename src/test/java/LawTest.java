@@ -61,6 +61,13 @@ final class LawTest {
         holds(x, "ferny or ferny or silent", true);
         holds(x, "silent and silent and ferny", false);
         holds(x, "ferny or silent and (ferny or (not ferny and x>2))", true);
+        Due.wrongLaw(x, "far 1 if ferny and", 18);
+        holds(x, "silent", true);
+        Due.wrongLaw(x, "far 1 if not (ferny", 19);
+        holds(x, "silent", true);
+        holds(x, "(silent and (silent and (silent and (silent and (silent and (silent and silent))))))", true);
+        holds(x, "ferny or silent and (ferny or silent and (ferny or silent and (ferny or silent and (ferny or silent and (ferny or silent and ferny)))))", false);
+        holds(x, "ferny or silent and (ferny or silent and (ferny or silent and (ferny or silent and (ferny or silent and (ferny or silent and silent)))))", true);
     }
 
     private static void numbers() {
@@ -112,5 +119,19 @@ final class LawTest {
         Due.is("the other goes", x.boy(1, 7), 29);
         Due.law(x, "stay if away<3");
         Due.is("asked each time", x.ahead(0, 9), 25);
+        LostRound y = Due.told("part 00000000;boy at 36 sings 0 ear 0;boy at 0 sings 0 ear 0;loud 0;stray 100");
+        Due.law(y, "far 20 if bad > 1");
+        Due.is("bad 0", y.hearing(), 0);
+        y.sing(1);
+        Due.is("bad 1", y.hearing(), 0);
+        y.sing(1);
+        Due.is("bad 2", y.hearing(), 3);
+        Due.is("lost(0, 0) has bad 0", y.lost(0, 0), 0);
+        Due.law(y, "far 20 if bad < 1");
+        Due.is("lost(0, 0) hears by that", y.lost(0, 0), 63);
+        // As long and as dense as a law can be.
+        Due.is("a law of 400 bytes", Due.law(y, "stay if1<0" + "or1<0".repeat(77) + "or0<1"), 1);
+        y.send(1, 26);
+        Due.is("it holds by its last words", y.boy(1, 7), 26);
     }
 }

@@ -34,6 +34,9 @@ final class PartTest {
         Due.is("shifted of one note", y.shifted(0, 1), 1);
         Due.is("shifted of two notes", y.shifted(2, 3), 2);
         Due.is("shifted by half", y.shifted(4, 5), 4);
+        LostRound z = Due.told("part 12345670;part 33456701;part 23456702");
+        Due.is("shifted but for beat 0", z.shifted(0, 1), -1);
+        Due.is("shifted but for beat 7", z.shifted(0, 2), -1);
     }
 
     private static void silences() {
@@ -77,6 +80,9 @@ final class PartTest {
         Due.is("mends by the beat that is now", x.mends(0), 8 * 5 + 2);
         Due.fails("mends(5)", IndexOutOfBoundsException.class, () -> x.mends(5));
         Due.fails("mends(-1)", IndexOutOfBoundsException.class, () -> x.mends(-1));
+        // Of two off by one silence in eight he is in by 9; of the others a side helps as well.
+        LostRound z = Due.told("part 07777777;fire 0;boy at 63 sings 0 ear 15");
+        Due.is("mends one who comes by 105", z.mends(0), 8);
         LostRound y = Due.told("part 01777777;boy at 25 sings 0 ear 15");
         // Up in beat 1 leads him off: 26, 18, then nearer along x and y by turns.
         Due.is("mends a wrong note", y.mends(0), 8);

@@ -78,6 +78,9 @@ final class TextTest {
         Due.is("night", x.count(8), 999);
         Due.is("ferns together", x.count(9), 9);
         Due.is("trees told twice", x.dense(), 1);
+        Due.wood(x, "trees 63;loud 0;stray 0;beat 0;night 0");
+        Due.is("trees 63", x.cell(63, 0), 1);
+        Due.is("all 0", x.count(5) + x.count(6) + x.count(7) + x.count(8), 0);
         Due.wood(x, "boy at 27 sings 0 ear 1;fire 3;fire 12;trees 3;trees 27");
         Due.is("a boy told in the fire, and one at whom it came: in", x.count(10), 0b101);
         Due.is("fire", x.count(4), 12);
@@ -91,6 +94,8 @@ final class TextTest {
         Due.wrongWood(x, "  ;", 2);
         Due.wrongWood(x, "Part 00000000", 0);
         Due.wrongWood(x, "partx 00000000", 0);
+        Due.wrongWood(x, "partz 00000000", 0);
+        Due.wrongWood(x, "parta 00000000", 0);
         Due.wrongWood(x, "part", 4);
         Due.wrongWood(x, "part   ", 7);
         Due.wrongWood(x, "part;", 4);
@@ -119,6 +124,12 @@ final class TextTest {
         Due.wrongWood(x, "trees", 5);
         Due.wrongWood(x, "trees 3;fire 3", 13);
         Due.wrongWood(x, "fire 64", 5);
+        Due.wrongWood(x, "fire", 4);
+        Due.wrongWood(x, "ferns", 5);
+        Due.wrongWood(x, "loud", 4);
+        Due.wrongWood(x, "stray", 5);
+        Due.wrongWood(x, "beat", 4);
+        Due.wrongWood(x, "night", 5);
         Due.wrongWood(x, "ferns 64 1", 6);
         Due.wrongWood(x, "ferns 3", 7);
         Due.wrongWood(x, "ferns 3 10", 8);

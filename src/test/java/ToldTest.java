@@ -63,9 +63,19 @@ final class ToldTest {
         best(x, 0, 0, 3);
         best(x, -1, 0, 8);
         best(x, -1, 0, 9);
+        best(x, -1, 0, 0);
+        best(x, 0, 0, 7);
+        best(x, 0);
+        // Of four that are seven off 55 and 56 are left, and then 55 alone.
+        Due.wood(x, "trees 7;trees 62");
+        best(x, 0, 0, 7);
+        Due.wood(x, "trees 56");
+        best(x, -1, 0, 7);
         // Of the four beside the fire one comes in by the first note, and the others part by the edge.
         LostRound y = Due.told("part 14444444");
         best(y, 4, 0, 1);
+        best(y, 4, 0, 1);
+        best(y, -1, 0, 8);
         Due.is("feed behind it", y.feed(0, 0, 0, 0, 0), 20);
     }
 
@@ -83,6 +93,11 @@ final class ToldTest {
         fitting(x, 0, 0x000c, 0, 1, 63, 0);
         fitting(x, 0, 0x0008, 2, 1, 63, 0);
         fitting(x, 0, 0x0000, 0, 1, 0, 0);
+        int[] forty = new int[40];
+        forty[39] = 1;
+        fitting(x, 0, 0x0000, forty);
+        forty[39] = 0;
+        fitting(x, 0, 0x0003, forty);
         Due.wood(x, "loud 0");
         Due.law(x, "near 9 if ear > 9 and silent and boy < 1 and x < 1 and away > 5 and beat < 1 and not ferny");
         // Ears 6 to 9 hear six off; ears 10 to 14 are nine nearer, and 15 is just good enough.
@@ -133,6 +148,8 @@ final class ToldTest {
         wrongEars(x, 255, 1);
         wrongEars(x, 0, 2);
         wrongEars(x, 0, 255);
+        wrongEars(x, 0, 1, 1, 1, 9, 1);
+        wrongEars(x, 0, 1, 1, 2);
         wrongEars(x, new int[42]);
         Due.put(x, 0, 1);
         Due.fails("ears(1)", IndexOutOfBoundsException.class, () -> x.ears(1));

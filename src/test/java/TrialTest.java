@@ -50,6 +50,9 @@ final class TrialTest {
         Due.is("span(2, true) of one who hears", z.span(2, true), 0);
         Due.is("span(3, false) of one who hears", z.span(3, false), 1);
         Due.is("span of none", new LostRound().span(100, false), 0);
+        // From seed 7 the step would be up; from seed 1 and 4 alone it is down, from 2 and 5 right.
+        Due.is("span(1, true) by down", Due.told("part 00000000;boy at 19 sings 0 ear 0;loud 0;stray 100").span(1, true), 1);
+        Due.is("span(1, true) by right", Due.told("part 00000000;boy at 26 sings 0 ear 0;loud 0;stray 100").span(1, true), 1);
         Due.fails("span(101, false)", IllegalArgumentException.class, () -> x.span(101, false));
         Due.fails("span(-1, true)", IllegalArgumentException.class, () -> x.span(-1, true));
     }

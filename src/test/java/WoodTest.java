@@ -101,6 +101,12 @@ final class WoodTest {
         Due.is("worst() of none", x.worst(), -1);
         Due.wood(x, "part 00000000;boy at 26 sings 0 ear 0;boy at 63 sings 0 ear 3;boy at 27 sings 0 ear 9;boy at 63 sings 0 ear 4");
         Due.wood(x, "trees 1;trees 2;trees 8;ferns 40 3;ferns 41 5;ferns 42 5;ferns 1 4");
+        LostRound y = Due.told("ferns 0 1");
+        Due.is("ferny() of one fern in 0", y.ferny(), 0);
+        Due.is("far() of boy 0", Due.told("part 00000000;boy at 0 sings 0 ear 0;boy at 26 sings 0 ear 0").far(), 0);
+        LostRound z = Due.told("part 00000000;boy at 26 sings 0 ear 9;boy at 0 sings 0 ear 0;loud 0;stray 100");
+        z.sing(1);
+        Due.is("worst() of bad 1", z.worst(), 1);
         Due.is("dense()", x.dense(), 3);
         Due.is("ferny()", x.ferny(), 41);
         Due.is("out()", x.out(), 0b1011);
