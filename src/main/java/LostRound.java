@@ -1051,8 +1051,8 @@ public final class LostRound {
 
         int silencesOf(int part) {
             int silences = 0;
-            for (int beat = 0; beat < BEATS; beat++) {
-                if (notes[part * BEATS + beat] == 0) {
+            for (int b = 0; b < BEATS; b++) {
+                if (notes[part * BEATS + b] == 0) {
                     silences++;
                 }
             }
