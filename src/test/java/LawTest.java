@@ -66,8 +66,9 @@ final class LawTest {
         Due.wrongLaw(x, "far 1 if not (ferny", 19);
         holds(x, "silent", true);
         holds(x, "(silent and (silent and (silent and (silent and (silent and (silent and silent))))))", true);
-        holds(x, "ferny or silent and (ferny or silent and (ferny or silent and (ferny or silent and (ferny or silent and (ferny or silent and ferny)))))", false);
-        holds(x, "ferny or silent and (ferny or silent and (ferny or silent and (ferny or silent and (ferny or silent and (ferny or silent and silent)))))", true);
+        String deep = "ferny or silent and (".repeat(6);
+        holds(x, deep + "silent or ferny and ferny" + ")".repeat(6), true);
+        holds(x, deep + "ferny or ferny and silent" + ")".repeat(6), false);
     }
 
     private static void numbers() {

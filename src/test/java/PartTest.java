@@ -80,9 +80,14 @@ final class PartTest {
         Due.is("mends by the beat that is now", x.mends(0), 8 * 5 + 2);
         Due.fails("mends(5)", IndexOutOfBoundsException.class, () -> x.mends(5));
         Due.fails("mends(-1)", IndexOutOfBoundsException.class, () -> x.mends(-1));
-        // Of two off by one silence in eight he is in by 9; of the others a side helps as well.
         LostRound z = Due.told("part 07777777;fire 0;boy at 63 sings 0 ear 15");
         Due.is("mends one who comes by 105", z.mends(0), 8);
+        // Thirteen off, and beat 4 alone leads: from beat 1 by 100, from beat 0 by 101.
+        LostRound u = Due.told("part 77777777;fire 0;boy at 62 sings 0 ear 15;beat 1");
+        Due.law(u, "stay if beat < 4 or beat > 4");
+        Due.is("mends one by 100", u.mends(0), 32);
+        Due.wood(u, "beat 0");
+        Due.is("mends none by 101", u.mends(0), -1);
         LostRound y = Due.told("part 01777777;boy at 25 sings 0 ear 15");
         // Up in beat 1 leads him off: 26, 18, then nearer along x and y by turns.
         Due.is("mends a wrong note", y.mends(0), 8);
