@@ -1,9 +1,18 @@
+import java.util.NoSuchElementException;
 import java.util.concurrent.Callable;
 
 /** What the tests share: answers that are due, and texts put on the tape. */
 final class Due {
+    static final Class<? extends Exception> INDEX = IndexOutOfBoundsException.class;
+    static final Class<? extends Exception> ARGUMENT = IllegalArgumentException.class;
+    static final Class<? extends Exception> STATE = IllegalStateException.class;
+    static final Class<? extends Exception> ELEMENT = NoSuchElementException.class;
+    static final Class<? extends Exception> UNSUPPORTED = UnsupportedOperationException.class;
+
     private static int wrong = 0;
     private static int asked = 0;
+    /** The words of the document that are held just now. */
+    private static String words = "";
 
     private Due() {
     }
@@ -11,8 +20,7 @@ final class Due {
     static void is(String call, long got, long want) {
         asked++;
         if (got != want) {
-            wrong++;
-            System.out.println(call + " answered " + got + ", due is " + want);
+            tell(call + " answered " + got + ", due is " + want);
         }
     }
 
@@ -29,19 +37,35 @@ final class Due {
             got = e.getClass() == due ? "" : "threw " + e;
         }
         if (!got.isEmpty()) {
-            wrong++;
-            System.out.println(call + " " + got + ", due is a " + due.getSimpleName());
+            tell(call + " " + got + ", due is a " + due.getSimpleName());
+        }
+    }
+
+    static void same(String call, String got, String want) {
+        asked++;
+        if (!got.equals(want)) {
+            tell(call + " is\n" + got + "\ndue is\n" + want);
         }
     }
 
     static void note(String complaint) {
         asked++;
-        wrong++;
-        System.out.println(complaint);
+        tell(complaint);
     }
 
-    /** Puts bytes behind an empty tape. */
+    private static void tell(String complaint) {
+        wrong++;
+        System.out.println(complaint + (words.isEmpty() ? "" : " (" + words + ")"));
+    }
+
+    /** What is asked from now on holds these words of the document. */
+    static void holds(String wordsOfTheDocument) {
+        words = wordsOfTheDocument;
+    }
+
+    /** Puts bytes on the tape, in place of what was there. */
     static void put(LostRound x, int... bytes) {
+        x.end(0);
         int[] fives = new int[5];
         for (int at = 0; at < bytes.length; at += 20) {
             for (int i = 0; i < 5; i++) {
