@@ -47,6 +47,15 @@ final class BeatBounds {
                 Due.is("from " + cells[i] + " to side " + (side + 1), x.boy(0, 7), due[i][side]);
             }
         }
+        for (int side = 1; side <= 4; side++) {
+            LostRound all = Due.told("part " + String.valueOf(side).repeat(8) + ";boy at 1 sings 0 ear 15;loud 15");
+            for (int cell = 0; cell < 64; cell++) {
+                if (cell != 27) {
+                    all.send(0, cell);
+                    Due.is("from " + cell + " to side " + side, all.boy(0, 7), side(cell, side));
+                }
+            }
+        }
         for (int[] edge : new int[][] {{3, 0, 3}, {23, 1, 23}, {60, 2, 60}, {24, 3, 24}, {8, 3, 8}, {15, 1, 15}}) {
             x.send(0, edge[0]);
             x.part(0, edge[1]);
@@ -63,6 +72,13 @@ final class BeatBounds {
         x.plant(37, false);
         x.part(0, 1);
         Due.is("trees felled there", x.boy(0, 7), 37);
+    }
+
+    /** The cell to a side, without trees. */
+    private static int side(int cell, int side) {
+        int x = cell % 8 + (side == 2 ? 1 : side == 4 ? -1 : 0);
+        int y = cell / 8 + (side == 3 ? 1 : side == 1 ? -1 : 0);
+        return x < 0 || x > 7 || y < 0 || y > 7 ? cell : 8 * y + x;
     }
 
     private static void stepsNearer() {

@@ -119,7 +119,7 @@ final class BoyBounds {
         Due.is("two pairs: of several the least", boysAt(0, 1, 62, 63).watch(), 0b101);
         Due.is("all six far off", boysAt(0, 4, 32, 36, 63, 15).watch(), 0b111111);
         Due.is("who is in does not watch", boysAt(24, 27, 30).watch(), 0b101);
-        Due.is("nor is he watched", boysAt(24, 27).watch(), 0b1);
+        Due.is("nor is he watched", boysAt(0, 1, 27).watch(), 0b1);
         // By the first or the second one and the fourth, or by the second one and the fifth.
         Due.is("of several the least", boysAt(0, 3, 6, 15, 39).watch(), 0b01001);
         LostRound x = boysAt(0, 3);
@@ -138,6 +138,8 @@ final class BoyBounds {
             }
         }
         Due.is("like a board of two colours", x.clearings(), 32);
+        Due.is("the first cell cut off", Due.told("trees 1;trees 8").clearings(), 2);
+        Due.is("the last cell cut off", Due.told("trees 55;trees 62").clearings(), 2);
         LostRound y = Due.told("trees 6;trees 15");
         Due.is("a corner cut off: 7 and 8 are apart", y.clearings(), 2);
         Due.wood(y, "trees 48;trees 57");
@@ -171,6 +173,8 @@ final class BoyBounds {
         Due.is("from a corner there are two ways", y.splits(), 0);
         y.plant(1, true);
         Due.is("from it there is one", y.splits(), 1);
+        Due.is("by the first cell", Due.told("part 00000000;boy at 1 sings 0 ear 0;trees 2;trees 9;fire 8").splits(), 1);
+        Due.is("by the last cell", Due.told("part 00000000;boy at 62 sings 0 ear 0;trees 61;trees 54;fire 55").splits(), 1);
     }
 
     private static void rests() {
@@ -262,6 +266,8 @@ final class BoyBounds {
         Due.is("by another fire", x.far(), 1);
         x.fire(29);
         Due.is("three off", x.far(), 2);
+        Due.is("the first one", boysAt(0, 28).far(), 0);
+        Due.is("of two of one cell the first one", boysAt(63, 63).far(), 0);
     }
 
     private static void worst() {
@@ -276,6 +282,9 @@ final class BoyBounds {
         Due.is("of 2", x.worst(), 2);
         x.call(2);
         Due.is("he is in now", x.worst(), 2);
+        LostRound y = TermBounds.shutIn();
+        y.sing(1);
+        Due.is("the first one, by 1", y.worst(), 0);
     }
 
     private static void odds() {

@@ -138,6 +138,8 @@ final class KeptBounds {
         Due.fails("span(101, true)", Due.ARGUMENT, () -> x.span(101, true));
         Due.fails("span(-1, true)", Due.ARGUMENT, () -> x.span(-1, true));
         Due.is("without boys", new LostRound().span(100, true), 0);
+        LostRound six = Due.told("part 00000000;" + "boy at 27 sings 0 ear 0;".repeat(5) + "boy at 27 sings 0 ear 0");
+        Due.is("all six", six.span(100, false) * 10 + six.span(0, true), 66);
         LostRound y = Due.told("part 77770777;fire 0;boy at 62 sings 0 ear 15;beat 1");
         Due.is("span(99, true)", y.span(99, true), 0);
         Due.is("span(100, false)", y.span(100, false), 1);
@@ -230,6 +232,19 @@ final class KeptBounds {
         undone("call(1)", x -> x.call(1), nothing);
         undone("send(2, 0)", x -> x.send(2, 0), nothing);
         undone("loud(15)", x -> x.loud(15), nothing);
+        LostRound full = TermBounds.shutIn();
+        full.sing(61);
+        full.image();
+        Due.is("a trial", full.trial(30, true), 91);
+        full.span(30, true);
+        rowsOf61(full);
+        full.sing(30);
+        Due.is("the latest row", full.log(0, 0) * 8 + full.log(0, 1), 90);
+        full.undo();
+        rowsOf61(full);
+        full.sing(40);
+        full.back();
+        rowsOf61(full);
         // The SEED is as it was ahead of the act, also where another one was told since.
         LostRound x = rich();
         x.loud(3);
@@ -237,6 +252,15 @@ final class KeptBounds {
         x.undo();
         LostRound y = rich();
         Due.is("the seed", x.seed(0), y.seed(0));
+    }
+
+    /** The log of 61 beats, in each of which one went astray. */
+    private static void rowsOf61(LostRound x) {
+        Due.is("rows", x.count(11), 60);
+        for (int ago = 0; ago < 60; ago += 59) {
+            Due.is("the row " + ago + " ago", x.log(ago, 0) * 8 + x.log(ago, 1), 60 - ago);
+        }
+        Due.is("a row amid", x.log(30, 0) * 8 + x.log(30, 1), 30);
     }
 
     private static void undone(String call, Consumer<LostRound> act, Consumer<LostRound> nothing) {
@@ -316,6 +340,23 @@ final class KeptBounds {
         x.loud(9);
         Due.is("back() again", x.back(), true);
         Due.is("the same", x.count(5), 2);
+        LostRound law = WayBounds.byAHundred(1);
+        Due.law(law, "far 1;far 2;stay if beat > 0");
+        law.image();
+        Due.law(law, "near 20");
+        law.back();
+        Due.is("lines of its law", law.count(3), 3);
+        Due.is("by which he hears", law.boy(0, 6), 1);
+        Due.is("and stays", law.soon(0), LostRound.NONE);
+        Due.law(law, "");
+        law.back();
+        law.back();
+        Due.is("its law again", law.count(3), 3);
+        LostRound none = new LostRound();
+        none.image();
+        Due.law(none, "stay");
+        none.back();
+        Due.is("none, if there was none", none.count(3), LostRound.NONE);
         // All of it: behind going back everything is as in another one that was left as it was then, but for the acts.
         kept("texts, laws and acts, gone back", y -> {
             y.image();

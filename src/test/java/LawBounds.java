@@ -9,6 +9,7 @@ final class LawBounds {
         kindsOfLines();
         numbers();
         andAheadOfOr();
+        words();
         atoms();
         partAndCell();
         awaySilentFerny();
@@ -85,6 +86,8 @@ final class LawBounds {
             Due.is("if " + number, x.boy(0, 6), 1);
         }
         Due.is("N 0", Due.law(x, "far 0;near 0;far 000"), 3);
+        Due.law(x, "far 0;near 0;far 8 if 0<1;near 20 if 1<1;near 0;far 0");
+        Due.is("N 0 ahead of a condition", x.boy(0, 6), 1);
         Due.is("N 20", Due.law(x, "far 20;near 20;near 020"), 3);
         Due.wrongLaw(x, "far 21", 4);
         Due.wrongLaw(x, "near 21", 5);
@@ -128,6 +131,33 @@ final class LawBounds {
             holds(x, "not " + s[0] + " and not (" + s[1] + " or " + s[2] + ") or not not " + s[3], !a && !(b || c) || d);
             holds(x, "(" + s[0] + " or " + s[1] + ") and (" + s[2] + " or not " + s[3] + ")", (a || b) && (c || !d));
         }
+    }
+
+    private static void words() {
+        Doc.says("not ATOM | ( C ) | silent | ferny |");
+        String[] notes = {"7", "0"};
+        for (int bits = 0; bits < 8; bits++) {
+            boolean silent = (bits & 1) != 0;
+            boolean ferny = (bits & 2) != 0;
+            boolean less = (bits & 4) != 0;
+            LostRound x = Due.told("part " + notes[silent ? 1 : 0] + "0000000;boy at 36 sings 0 ear 3;loud 0;ferns 36 " + (ferny ? 1 : 0));
+            String atom = less ? "0<1" : "0<0";
+            stands(x, "silent and ferny", silent && ferny);
+            stands(x, "silent or ferny", silent || ferny);
+            stands(x, "ferny and not silent", ferny && !silent);
+            stands(x, atom + " and silent", less && silent);
+            stands(x, atom + " or silent", less || silent);
+            stands(x, "ferny and " + atom, ferny && less);
+            stands(x, "not ferny or " + atom, !ferny || less);
+            stands(x, atom + " or silent and ferny or " + atom + " and not silent", less || silent && ferny);
+            stands(x, "not (silent or ferny) and " + atom, !(silent || ferny) && less);
+        }
+    }
+
+    /** One two off, who hears by three less a fern: he does not, if a condition stands. */
+    private static void stands(LostRound x, String condition, boolean due) {
+        Due.law(x, "far 0;near 20 if " + condition);
+        Due.is("does not hear, if " + condition, x.boy(0, 6), due ? 0 : 1);
     }
 
     private static void atoms() {
@@ -246,6 +276,9 @@ final class LawBounds {
         Due.wrongLaw(x, "sta y", 0);
         Due.wrongLaw(x, "st", 0);
         Due.wrongLaw(x, "stays", 0);
+        Due.wrongLaw(x, "staya", 0);
+        Due.wrongLaw(x, "stayz", 0);
+        Due.wrongLaw(x, "zstay", 0);
         Due.wrongLaw(x, "stay ifx<2", 5);
         Due.wrongLaw(x, "stay if x<2 andy<2", 12);
         Due.wrongLaw(x, "far 2 0", 6);

@@ -39,6 +39,8 @@ final class PartBounds {
         Due.is("of two beats the least", x.code(), 0b00010000);
         Due.is("of all beats the least", Due.told("part 00000000;part 77777777").code(), 1);
         Due.is("two alike of three: none", Due.told("part 01234567;part 76543210;part 01234567").code(), LostRound.NONE);
+        Due.is("the last two alike: none", Due.told("part 01234567;part 76543210;part 76543210").code(), LostRound.NONE);
+        Due.is("the last two by beat 7", Due.told("part 01234567;part 76543211;part 76543212").code(), 0b10000000);
     }
 
     private static void shifted() {
@@ -78,7 +80,9 @@ final class PartBounds {
             "01010101", "00110010", "10011001", "00000100", "00100100", "07000070"};
         int[] due = {8, 0, 1, 1, 2, 5, 7, 7, 7, 1, 3, 2, 7, 4, 4};
         for (int i = 0; i < parts.length; i++) {
-            Due.is("hush of " + parts[i], Due.told("part " + parts[i]).hush(0), due[i]);
+            LostRound x = Due.told("part " + parts[i] + ";part 77777777;part " + parts[i] + ";part 00000000");
+            Due.is("hush of " + parts[i], x.hush(0), due[i]);
+            Due.is("hush of " + parts[i] + ", amid others", x.hush(2), due[i]);
         }
     }
 

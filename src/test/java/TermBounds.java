@@ -23,8 +23,11 @@ final class TermBounds {
 
     private static void callsOfAnObject() {
         Doc.says("An object is used for at most 512 calls after it has been made; what later calls answer is free.");
-        // Three calls to tell the night, 508 to sing fifteen nights each: the farthest night there can be.
-        LostRound x = Due.told("night 999");
+        // Three calls to tell "night 999", 508 to sing fifteen nights each: the farthest night there can be.
+        LostRound x = new LostRound();
+        x.feed(0x6e696768, 0x74203939, 0x39000000, 0, 0);
+        x.end(9);
+        x.wood();
         for (int call = 4; call <= 511; call++) {
             x.sing(120);
         }

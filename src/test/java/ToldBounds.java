@@ -54,6 +54,9 @@ final class ToldBounds {
         sounds(x, 0, LostRound.NONE, 30, 1);
         sounds(x, 0, LostRound.NONE, 30, 14);
         sounds(x, 0, LostRound.NONE, 1, 14);
+        sounds(x, 0, LostRound.NONE, 0, 13, 0, 14);
+        sounds(x, 0, LostRound.NONE, 0, 14, 0, 13);
+        sounds(x, 1, 63, 0, 14, 0, 14);
         wrong(x, 31, 0);
         wrong(x, 255, 0);
         wrong(x, 0, 15);
@@ -162,6 +165,10 @@ final class ToldBounds {
         best(z, 0, 0, 3);
         Due.law(z, "");
         best(z, 1, 0, 3);
+        // The one in 62 goes to where the other one is, as far as one can be.
+        LostRound v = Due.told("part 22222222;fire 0;loud 15");
+        sounds(v, 2, 62, 1, 14);
+        best(v, 0, 1, 14);
         // Of 8 and 40 each goes to the right every eighth beat, and the fourth time trees stop the one of them.
         LostRound u = Due.told("part 77777277;trees 44");
         sounds(u, 2, 8, 0, 5, 6, 4, 14, 3, 22, 2);
@@ -192,7 +199,14 @@ final class ToldBounds {
         best(x, 0, 0, 7);
         x.plant(62, true);
         best(x, LostRound.NONE, 0, 7);
-        best(WayBounds.onlyTheFire(), LostRound.NONE);
+        LostRound few = WayBounds.onlyTheFire();
+        best(few, LostRound.NONE);
+        for (int cell : new int[] {0, 63}) {
+            few.plant(cell, false);
+            best(few, 0);
+            few.plant(cell, true);
+        }
+        best(few, LostRound.NONE);
         Doc.promises(29, "Uses the TAPE up: LISTEN (the TAPE likewise); NONE. IllegalArgumentException: the TAPE is not that, or there are no PARTS.");
         LostRound y = Due.told("part 00000000");
         int[] forty = new int[40];
@@ -229,6 +243,8 @@ final class ToldBounds {
         wrongEars(x, 255, 0);
         wrongEars(x, 0, 2);
         wrongEars(x, 0, 255);
+        wrongEars(x, 0, 1, 64, 0);
+        wrongEars(x, 0, 1, 1, 2);
         wrongEars(x, 0, 1, 63, 0, 5, 1);
         x.fire(63);
         ears(x, 0, 0b1111_1111_0000_0000, 27, 1);

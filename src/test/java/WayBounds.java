@@ -85,6 +85,7 @@ final class WayBounds {
         Due.is("by 100", y.soon(0), 100);
         Due.is("not by 99", y.ahead(0, 99) == y.count(4), false);
         Due.is("by 101: none", byAHundred(0).soon(0), LostRound.NONE);
+        Due.is("to and fro, but nearer by one each time", Due.told("part 27777744;boy at 29 sings 0 ear 15").soon(0), 16);
         LostRound z = Due.told("part 22224444;boy at 0 sings 0 ear 15;loud 15");
         Due.is("to and fro: none", z.soon(0), LostRound.NONE);
     }
@@ -191,6 +192,13 @@ final class WayBounds {
         Due.is("one who does not hear: none", x.calls(3), LostRound.NONE);
         x.loud(15);
         Due.is("one shut in: none", x.calls(3), LostRound.NONE);
+        LostRound y = Due.told("part 77777777;boy at 0 sings 0 ear 15;boy at 63 sings 0 ear 15");
+        Due.law(y, "stay if not silent");
+        Due.is("by silences from the first cell", y.calls(0), 6);
+        Due.is("by silences from the last cell", y.calls(1), 8);
+        Due.law(y, "stay if silent");
+        Due.is("by sides from the first cell", y.calls(0), 6);
+        Due.is("by sides from the last cell", y.calls(1), 8);
         x.plant(8, false);
         Due.is("from the corner by the gap", x.calls(3), 6);
         Due.is("nothing is sung", x.count(7), 0);
@@ -242,6 +250,21 @@ final class WayBounds {
         for (int[] row : from) {
             x.send(1, row[0]);
             Due.is("a side from " + row[0], x.first(1), row[1]);
+        }
+        // In one beat alone a side leads, in all others a silence.
+        for (int beat = 0; beat <= 7; beat++) {
+            LostRound z = Due.told("part 77777777;boy at 29 sings 0 ear 15;beat " + beat);
+            String now = "beat + 1 > " + beat + " and beat < " + (beat + 1);
+            Due.law(z, "stay if silent and " + now + ";stay if not silent and not (" + now + ")");
+            Due.is("calls from beat " + beat, z.calls(0), 2);
+            Due.is("first of beat " + beat, z.first(0), 4);
+            Due.law(z, "stay if not silent and " + now + ";stay if silent and not (" + now + ")");
+            Due.is("first of beat " + beat + ", the other way round", z.first(0), 0);
+            // Led in two beats alone, this one and the next.
+            Due.law(z, "stay if not (" + now + ") and not (" + (beat == 7 ? "beat < 1" : "beat > " + beat + " and beat < " + (beat + 2)) + ")");
+            Due.is("calls by two beats", z.calls(0), 2);
+            Due.is("first of two beats", z.first(0), 0);
+            Due.is("can by two beats", z.can(0, 2), 13);
         }
         // In beat 0 a silence leads him into ferns, where he would be deaf for ever, and no side leads.
         LostRound y = Due.told("part 77777777;boy at 29 sings 0 ear 0;ferns 28 9");

@@ -105,6 +105,14 @@ final class WoodBounds {
         Due.wrongWood(x, "boy at 5 sings 0 ear 0", 7);
         Due.wrongWood(x, "trees 6;boy at 6 sings 0 ear 0", 15);
         Due.wrongWood(x, "boy at 4 sings 0 ear 16", 21);
+        Due.wrongWood(x, "boy 4 sings 0 ear 0", 4);
+        Due.wrongWood(x, "boy sings 0 ear 0", 4);
+        Due.wrongWood(x, "boy at sings 0 ear 0", 7);
+        Due.wrongWood(x, "boy at 4 0 ear 0", 9);
+        Due.wrongWood(x, "boy at 4 ear 0", 9);
+        Due.wrongWood(x, "boy at 4 sings ear 0", 15);
+        Due.wrongWood(x, "boy at 4 sings 0 0", 17);
+        Due.wrongWood(x, "boy at 4 sings 0 ear;beat 1", 20);
         Due.is("in the fire, and where one is", Due.wood(x, "boy at 27 sings 0 ear 15;boy at 63 sings 0 ear 15"), 4);
         Due.is("who is in", x.count(10), 0b01000);
         Due.is("boys", x.count(1), 5);
