@@ -173,6 +173,8 @@ final class BoyBounds {
         Due.is("from a corner there are two ways", y.splits(), 0);
         y.plant(1, true);
         Due.is("from it there is one", y.splits(), 1);
+        Due.wood(y, "boy at 0 sings 0 ear 0");
+        Due.is("from it for two in one cell", y.splits(), 1);
         Due.is("by the first cell", Due.told("part 00000000;boy at 1 sings 0 ear 0;trees 2;trees 9;fire 8").splits(), 1);
         Due.is("by the last cell", Due.told("part 00000000;boy at 62 sings 0 ear 0;trees 61;trees 54;fire 55").splits(), 1);
     }

@@ -75,6 +75,45 @@ final class KeptBounds {
         kept("trial(100, false)", x -> x.trial(100, false), nothing);
         kept("span(100, true)", x -> x.span(100, true), nothing);
         kept("span(100, false)", x -> x.span(100, false), nothing);
+        kept("questions", KeptBounds::ask, nothing);
+    }
+
+    /** Each of the questions but those that use the tape up. */
+    private static void ask(LostRound x) {
+        x.soon(0);
+        x.by(0, 1);
+        x.best(1);
+        x.all();
+        x.should();
+        x.path(0, 63);
+        x.calls(0);
+        x.first(0);
+        x.can(0, 16);
+        x.lost(1, 15);
+        x.code();
+        x.shifted(0, 1);
+        x.silence(0);
+        x.hush(0);
+        x.quiet();
+        x.mends(0);
+        x.meet(0, 1);
+        x.sooner();
+        x.loudest();
+        x.watch();
+        x.clearings();
+        x.splits();
+        x.rests(0);
+        x.hearing();
+        x.ferny();
+        x.out();
+        x.far();
+        x.worst();
+        x.odds(1, 4);
+        x.twins();
+        x.ahead(0, 100);
+        x.led(1, true);
+        x.log(0, 4);
+        x.boy(1, 8);
     }
 
     /** Two calls, behind which all is alike. */

@@ -332,6 +332,13 @@ final class LawBounds {
         Due.wrongLaw(x, "stay if ((((((0<1)))))) and (((((((0<1)))))))", 34);
         Due.wrongLaw(x, "stay if (((((not not 0<1)))))", 17);
         holds(x, "((((((0<1 and 0<1) or 0<0) and 0<1) or 0<0) and 0<1) or 0<0)", true);
+        // As much as can wait for its right side: an or, an and, and a bracket six times, and once more the two.
+        String open = "0<0 or 0<1 and (".repeat(6);
+        String close = ")".repeat(6);
+        LostRound y = eightOff();
+        holds(y, open + "0<0 or 0<1 and 0<1" + close, true);
+        holds(y, open + "0<0 or 0<1 and 0<0" + close, false);
+        holds(y, open + "0<1 or 0<1 and 0<0" + close, true);
     }
 
     private static void nothingStays() {

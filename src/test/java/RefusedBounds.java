@@ -57,46 +57,59 @@ final class RefusedBounds {
 
     private static void noSuchBoy() {
         Doc.says("IndexOutOfBoundsException: there is no such BOY,");
-        String[] calls = {"boy(b, 0)", "boy(b, 8)", "part(b, 0)", "call(b)", "send(b, 0)", "soon(b)", "by(b, 0)", "best(b)", "calls(b)", "first(b)",
-            "can(b, 0)", "ears(b)", "mends(b)", "rests(b)", "odds(b, 0)", "ahead(b, 0)", "led(b, true)", "led(b, false)"};
-        Ask[] asks = {(x, b) -> x.boy(b, 0), (x, b) -> x.boy(b, 8), (x, b) -> x.part(b, 0), (x, b) -> x.call(b), (x, b) -> x.send(b, 0),
-            (x, b) -> x.soon(b), (x, b) -> x.by(b, 0), (x, b) -> x.best(b), (x, b) -> x.calls(b), (x, b) -> x.first(b), (x, b) -> x.can(b, 0),
-            (x, b) -> x.ears(b), (x, b) -> x.mends(b), (x, b) -> x.rests(b), (x, b) -> x.odds(b, 0), (x, b) -> x.ahead(b, 0),
-            (x, b) -> x.led(b, true), (x, b) -> x.led(b, false)};
-        for (int i = 0; i < calls.length; i++) {
-            bounds(calls[i], Due.INDEX, 0, 2, asks[i]);
-            Ask ask = asks[i];
-            LostRound empty = new LostRound();
-            Due.fails(calls[i] + " of 0 of none", Due.INDEX, () -> ask.of(empty, 0));
-        }
+        noSuch("boy(b, 0)", 2, (x, b) -> x.boy(b, 0));
+        noSuch("boy(b, 8)", 2, (x, b) -> x.boy(b, 8));
+        noSuch("part(b, 0)", 2, (x, b) -> x.part(b, 0));
+        noSuch("call(b)", 2, (x, b) -> x.call(b));
+        noSuch("send(b, 0)", 2, (x, b) -> x.send(b, 0));
+        noSuch("soon(b)", 2, (x, b) -> x.soon(b));
+        noSuch("by(b, 0)", 2, (x, b) -> x.by(b, 0));
+        noSuch("best(b)", 2, (x, b) -> x.best(b));
+        noSuch("calls(b)", 2, (x, b) -> x.calls(b));
+        noSuch("first(b)", 2, (x, b) -> x.first(b));
+        noSuch("can(b, 0)", 2, (x, b) -> x.can(b, 0));
+        noSuch("ears(b)", 2, (x, b) -> x.ears(b));
+        noSuch("mends(b)", 2, (x, b) -> x.mends(b));
+        noSuch("rests(b)", 2, (x, b) -> x.rests(b));
+        noSuch("odds(b, 0)", 2, (x, b) -> x.odds(b, 0));
+        noSuch("ahead(b, 0)", 2, (x, b) -> x.ahead(b, 0));
+        noSuch("led(b, true)", 2, (x, b) -> x.led(b, true));
+        noSuch("led(b, false)", 2, (x, b) -> x.led(b, false));
         bounds("meet(b, 1)", Due.INDEX, 0, 2, (x, b) -> x.meet(b, b == 1 ? 0 : 1));
-        bounds("meet(1, b)", Due.INDEX, 0, 2, (x, b) -> x.meet(1, b));
+        bounds("meet(1, b)", Due.INDEX, 0, 2, (x, b) -> x.meet(1, b == 1 ? 0 : b));
+    }
+
+    /** Of the boys or the parts there is a last one; where there is none at all, there is not even 0. */
+    private static void noSuch(String call, int last, Ask ask) {
+        bounds(call, Due.INDEX, 0, last, ask);
+        LostRound empty = new LostRound();
+        Due.fails(call + " of 0 of none", Due.INDEX, () -> ask.of(empty, 0));
     }
 
     private static void noSuchPart() {
         Doc.says("no such BOY, PART,");
-        String[] calls = {"note(p, 0)", "part(0, p)", "tune(p, 0, 0)", "by(0, p)", "lost(p, 0)", "silence(p)", "hush(p)"};
-        Ask[] asks = {(x, p) -> x.note(p, 0), (x, p) -> x.part(0, p), (x, p) -> x.tune(p, 0, 0), (x, p) -> x.by(0, p), (x, p) -> x.lost(p, 0),
-            (x, p) -> x.silence(p), (x, p) -> x.hush(p)};
-        for (int i = 0; i < calls.length; i++) {
-            bounds(calls[i], Due.INDEX, 0, 1, asks[i]);
-            Ask ask = asks[i];
-            LostRound empty = new LostRound();
-            Due.fails(calls[i] + " of 0 of none", Due.INDEX, () -> ask.of(empty, 0));
-        }
+        noSuch("note(p, 0)", 1, (x, p) -> x.note(p, 0));
+        noSuch("part(0, p)", 1, (x, p) -> x.part(0, p));
+        noSuch("tune(p, 0, 0)", 1, (x, p) -> x.tune(p, 0, 0));
+        noSuch("by(0, p)", 1, (x, p) -> x.by(0, p));
+        noSuch("lost(p, 0)", 1, (x, p) -> x.lost(p, 0));
+        noSuch("silence(p)", 1, (x, p) -> x.silence(p));
+        noSuch("hush(p)", 1, (x, p) -> x.hush(p));
         bounds("shifted(p, 1 - p)", Due.INDEX, 0, 1, (x, p) -> x.shifted(p, p == 1 ? 0 : 1));
         bounds("shifted(1 - p, p)", Due.INDEX, 0, 1, (x, p) -> x.shifted(p == 1 ? 0 : 1, p));
     }
 
     private static void noSuchCell() {
         Doc.says("no such BOY, PART, CELL,");
-        String[] calls = {"cell(c, 0)", "cell(c, 1)", "cell(c, 2)", "fire(c)", "plant(c, true)", "plant(c, false)", "send(0, c)", "path(c, 0)",
-            "path(0, c)"};
-        Ask[] asks = {(x, c) -> x.cell(c, 0), (x, c) -> x.cell(c, 1), (x, c) -> x.cell(c, 2), (x, c) -> x.fire(c), (x, c) -> x.plant(c, true),
-            (x, c) -> x.plant(c, false), (x, c) -> x.send(0, c), (x, c) -> x.path(c, 0), (x, c) -> x.path(0, c)};
-        for (int i = 0; i < calls.length; i++) {
-            bounds(calls[i], Due.INDEX, 0, 63, asks[i]);
-        }
+        bounds("cell(c, 0)", Due.INDEX, 0, 63, (x, c) -> x.cell(c, 0));
+        bounds("cell(c, 1)", Due.INDEX, 0, 63, (x, c) -> x.cell(c, 1));
+        bounds("cell(c, 2)", Due.INDEX, 0, 63, (x, c) -> x.cell(c, 2));
+        bounds("fire(c)", Due.INDEX, 0, 63, (x, c) -> x.fire(c));
+        bounds("plant(c, true)", Due.INDEX, 0, 63, (x, c) -> x.plant(c, true));
+        bounds("plant(c, false)", Due.INDEX, 0, 63, (x, c) -> x.plant(c, false));
+        bounds("send(0, c)", Due.INDEX, 0, 63, (x, c) -> x.send(0, c));
+        bounds("path(c, 0)", Due.INDEX, 0, 63, (x, c) -> x.path(c, 0));
+        bounds("path(0, c)", Due.INDEX, 0, 63, (x, c) -> x.path(0, c));
     }
 
     private static void noSuchBeat() {
@@ -163,16 +176,28 @@ final class RefusedBounds {
 
     private static void theOneToldFirst() {
         Doc.says("Of several exceptions the one told first is thrown;");
-        String[] calls = {"cell(64, 3)", "boy(3, 9)", "fire(-1)", "plant(64, true)", "part(3, 2)", "tune(2, 8, 8)", "tune(0, 8, 8)", "tune(2, 0, 8)",
-            "call(3)", "send(3, 26)", "send(3, 27)", "send(0, 64)", "can(3, 17)", "lost(2, 16)", "shifted(2, 2)", "shifted(-1, -1)", "meet(3, 3)",
-            "meet(-1, -1)", "meet(0, 3)", "odds(3, 5)", "ahead(3, 101)", "by(3, 2)"};
-        Call[] asks = {x -> x.cell(64, 3), x -> x.boy(3, 9), x -> x.fire(-1), x -> x.plant(64, true), x -> x.part(3, 2), x -> x.tune(2, 8, 8),
-            x -> x.tune(0, 8, 8), x -> x.tune(2, 0, 8), x -> x.call(3), x -> x.send(3, 26), x -> x.send(3, 27), x -> x.send(0, 64), x -> x.can(3, 17),
-            x -> x.lost(2, 16), x -> x.shifted(2, 2), x -> x.shifted(-1, -1), x -> x.meet(3, 3), x -> x.meet(-1, -1), x -> x.meet(0, 3),
-            x -> x.odds(3, 5), x -> x.ahead(3, 101), x -> x.by(3, 2)};
-        for (int i = 0; i < calls.length; i++) {
-            refused(calls[i], Due.INDEX, asks[i]);
-        }
+        refused("cell(64, 3)", Due.INDEX, x -> x.cell(64, 3));
+        refused("boy(3, 9)", Due.INDEX, x -> x.boy(3, 9));
+        refused("fire(-1)", Due.INDEX, x -> x.fire(-1));
+        refused("plant(64, true)", Due.INDEX, x -> x.plant(64, true));
+        refused("part(3, 2)", Due.INDEX, x -> x.part(3, 2));
+        refused("tune(2, 8, 8)", Due.INDEX, x -> x.tune(2, 8, 8));
+        refused("tune(0, 8, 8)", Due.INDEX, x -> x.tune(0, 8, 8));
+        refused("tune(2, 0, 8)", Due.INDEX, x -> x.tune(2, 0, 8));
+        refused("call(3)", Due.INDEX, x -> x.call(3));
+        refused("send(3, 26)", Due.INDEX, x -> x.send(3, 26));
+        refused("send(3, 27)", Due.INDEX, x -> x.send(3, 27));
+        refused("send(0, 64)", Due.INDEX, x -> x.send(0, 64));
+        refused("can(3, 17)", Due.INDEX, x -> x.can(3, 17));
+        refused("lost(2, 16)", Due.INDEX, x -> x.lost(2, 16));
+        refused("shifted(2, 2)", Due.INDEX, x -> x.shifted(2, 2));
+        refused("shifted(-1, -1)", Due.INDEX, x -> x.shifted(-1, -1));
+        refused("meet(3, 3)", Due.INDEX, x -> x.meet(3, 3));
+        refused("meet(-1, -1)", Due.INDEX, x -> x.meet(-1, -1));
+        refused("meet(0, 3)", Due.INDEX, x -> x.meet(0, 3));
+        refused("odds(3, 5)", Due.INDEX, x -> x.odds(3, 5));
+        refused("ahead(3, 101)", Due.INDEX, x -> x.ahead(3, 101));
+        refused("by(3, 2)", Due.INDEX, x -> x.by(3, 2));
     }
 
     /** A call is refused, and all is as in another object of which nothing was asked. */
@@ -186,24 +211,45 @@ final class RefusedBounds {
 
     private static void nothingIsChanged() {
         Doc.says("a call that throws changes nothing but the TAPE,");
-        String[] calls = {"cell(0, 3)", "note(2, 0)", "note(0, 8)", "boy(0, 9)", "fire(26)", "plant(27, true)", "part(0, 2)", "part(3, 0)",
-            "tune(0, 0, 8)", "tune(0, 0, -1)", "call(2)", "send(0, 26)", "send(2, 27)", "loud(16)", "loud(-1)", "path(64, 0)", "path(0, 64)", "soon(3)",
-            "by(0, 2)", "best(3)", "calls(3)", "first(3)", "can(0, 17)", "lost(0, 16)", "shifted(1, 1)", "silence(2)", "hush(2)", "mends(3)",
-            "meet(2, 2)", "rests(3)", "odds(0, 5)", "ahead(0, 101)", "trial(101, true)", "span(101, true)", "led(3, true)", "log(0, 5)", "sing(0)",
-            "sing(121)", "plant at a boy"};
-        Call[] asks = {x -> x.cell(0, 3), x -> x.note(2, 0), x -> x.note(0, 8), x -> x.boy(0, 9), x -> x.fire(26), x -> x.plant(27, true),
-            x -> x.part(0, 2), x -> x.part(3, 0), x -> x.tune(0, 0, 8), x -> x.tune(0, 0, -1), x -> x.call(2), x -> x.send(0, 26), x -> x.send(2, 27),
-            x -> x.loud(16), x -> x.loud(-1), x -> x.path(64, 0), x -> x.path(0, 64), x -> x.soon(3), x -> x.by(0, 2), x -> x.best(3), x -> x.calls(3),
-            x -> x.first(3), x -> x.can(0, 17), x -> x.lost(0, 16), x -> x.shifted(1, 1), x -> x.silence(2), x -> x.hush(2), x -> x.mends(3),
-            x -> x.meet(2, 2), x -> x.rests(3), x -> x.odds(0, 5), x -> x.ahead(0, 101), x -> x.trial(101, true), x -> x.span(101, true),
-            x -> x.led(3, true), x -> x.log(0, 5), x -> x.sing(0), x -> x.sing(121), x -> x.plant(x.boy(0, 0), true)};
-        Class<?>[] due = {Due.ELEMENT, Due.INDEX, Due.INDEX, Due.ELEMENT, Due.STATE, Due.STATE, Due.INDEX, Due.INDEX, Due.ARGUMENT, Due.ARGUMENT,
-            Due.STATE, Due.STATE, Due.STATE, Due.ARGUMENT, Due.ARGUMENT, Due.INDEX, Due.INDEX, Due.INDEX, Due.INDEX, Due.INDEX, Due.INDEX, Due.INDEX,
-            Due.ARGUMENT, Due.ARGUMENT, Due.ARGUMENT, Due.INDEX, Due.INDEX, Due.INDEX, Due.ARGUMENT, Due.INDEX, Due.ARGUMENT, Due.ARGUMENT, Due.ARGUMENT,
-            Due.ARGUMENT, Due.INDEX, Due.ELEMENT, Due.ARGUMENT, Due.ARGUMENT, Due.STATE};
-        for (int i = 0; i < calls.length; i++) {
-            refused(calls[i], due[i].asSubclass(Exception.class), asks[i]);
-        }
+        refused("cell(0, 3)", Due.ELEMENT, x -> x.cell(0, 3));
+        refused("note(2, 0)", Due.INDEX, x -> x.note(2, 0));
+        refused("note(0, 8)", Due.INDEX, x -> x.note(0, 8));
+        refused("boy(0, 9)", Due.ELEMENT, x -> x.boy(0, 9));
+        refused("fire(26)", Due.STATE, x -> x.fire(26));
+        refused("plant(27, true)", Due.STATE, x -> x.plant(27, true));
+        refused("part(0, 2)", Due.INDEX, x -> x.part(0, 2));
+        refused("part(3, 0)", Due.INDEX, x -> x.part(3, 0));
+        refused("tune(0, 0, 8)", Due.ARGUMENT, x -> x.tune(0, 0, 8));
+        refused("tune(0, 0, -1)", Due.ARGUMENT, x -> x.tune(0, 0, -1));
+        refused("call(2)", Due.STATE, x -> x.call(2));
+        refused("send(0, 26)", Due.STATE, x -> x.send(0, 26));
+        refused("send(2, 27)", Due.STATE, x -> x.send(2, 27));
+        refused("loud(16)", Due.ARGUMENT, x -> x.loud(16));
+        refused("loud(-1)", Due.ARGUMENT, x -> x.loud(-1));
+        refused("path(64, 0)", Due.INDEX, x -> x.path(64, 0));
+        refused("path(0, 64)", Due.INDEX, x -> x.path(0, 64));
+        refused("soon(3)", Due.INDEX, x -> x.soon(3));
+        refused("by(0, 2)", Due.INDEX, x -> x.by(0, 2));
+        refused("best(3)", Due.INDEX, x -> x.best(3));
+        refused("calls(3)", Due.INDEX, x -> x.calls(3));
+        refused("first(3)", Due.INDEX, x -> x.first(3));
+        refused("can(0, 17)", Due.ARGUMENT, x -> x.can(0, 17));
+        refused("lost(0, 16)", Due.ARGUMENT, x -> x.lost(0, 16));
+        refused("shifted(1, 1)", Due.ARGUMENT, x -> x.shifted(1, 1));
+        refused("silence(2)", Due.INDEX, x -> x.silence(2));
+        refused("hush(2)", Due.INDEX, x -> x.hush(2));
+        refused("mends(3)", Due.INDEX, x -> x.mends(3));
+        refused("meet(2, 2)", Due.ARGUMENT, x -> x.meet(2, 2));
+        refused("rests(3)", Due.INDEX, x -> x.rests(3));
+        refused("odds(0, 5)", Due.ARGUMENT, x -> x.odds(0, 5));
+        refused("ahead(0, 101)", Due.ARGUMENT, x -> x.ahead(0, 101));
+        refused("trial(101, true)", Due.ARGUMENT, x -> x.trial(101, true));
+        refused("span(101, true)", Due.ARGUMENT, x -> x.span(101, true));
+        refused("led(3, true)", Due.INDEX, x -> x.led(3, true));
+        refused("log(0, 5)", Due.ELEMENT, x -> x.log(0, 5));
+        refused("sing(0)", Due.ARGUMENT, x -> x.sing(0));
+        refused("sing(121)", Due.ARGUMENT, x -> x.sing(121));
+        refused("plant at a boy", Due.STATE, x -> x.plant(x.boy(0, 0), true));
     }
 
     /** A call is refused, and the tape is used up, fault() is as due, and all else is as it was. */
