@@ -1,4 +1,4 @@
-/** All that an object tells of itself, as a text; the object is used up by it. */
+/** The state of an object as far as it tells it, as a text; the object is used up by it. */
 final class Whole {
     private final LostRound x;
     private final StringBuilder text = new StringBuilder();
